@@ -38,16 +38,11 @@ public final class PromiseTest {
     }
 
     private static void order(String what, LacedPack pack, String due) {
-        String got = Runs.order(pack);
-        CHECK.holds(what + ": " + got + " is " + due, got.equals(due));
+        CHECK.order(what, pack, due);
     }
 
     private static void faultOf(String text, int due) {
-        LacedPack pack = new LacedPack();
-        Runs.write(pack, text);
-        same("fault of " + text, pack.fault(), due);
-        int first = pack.lay();
-        CHECK.holds("lay of " + text + " answers " + first, due == NONE && !text.isEmpty() ? first >= 2 : first == NO);
+        CHECK.faultOf(text, due);
     }
 
     private static String times(String part, int count) {

@@ -25,9 +25,14 @@ final class Runs {
         }
     }
 
-    static LacedPack laid(String text) {
+    static LacedPack written(String text) {
         LacedPack pack = new LacedPack();
         write(pack, text);
+        return pack;
+    }
+
+    static LacedPack laid(String text) {
+        LacedPack pack = written(text);
         pack.lay();
         return pack;
     }
@@ -38,6 +43,30 @@ final class Runs {
             row.append(place == 0 ? "" : " ").append(pack.at(place));
         }
         return row.toString();
+    }
+
+    /** All that can be asked of it, and all that it undoes, deals, goes back to and lays; it is used up then. */
+    static String trace(LacedPack pack) {
+        StringBuilder all = new StringBuilder();
+        for (int what = 0; what <= 5; what++) {
+            all.append(pack.count(what)).append(' ');
+        }
+        all.append("fault ").append(pack.fault()).append(": ").append(order(pack)).append(", colours");
+        for (int card = 0; card < pack.count(0); card++) {
+            all.append(' ').append(pack.colour(card));
+        }
+        all.append(", done ").append(pack.done(0)).append(' ').append(pack.done(1));
+        all.append(", deals ").append(pack.again(5));
+        for (int i = 0; i < 9 && pack.count(3) > 0; i++) {
+            all.append(", undone ").append(pack.undo()).append(": ").append(order(pack));
+        }
+        pack.deal();
+        all.append(", dealt ").append(order(pack));
+        for (int i = 0; i < 3 && pack.count(4) > 0; i++) {
+            all.append(", back ").append(pack.back()).append(": ").append(order(pack));
+        }
+        all.append(", laid ").append(pack.lay()).append(": ").append(order(pack));
+        return all.append(", wiped ").append(pack.wipe()).toString();
     }
 
     static Map<String, Method> calls() {
