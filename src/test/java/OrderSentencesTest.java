@@ -141,8 +141,8 @@ public final class OrderSentencesTest {
         });
         all.told("BRING: how many; none. There is none by which it does not come there", check -> {
             for (int n = 2; n <= 16; n++) {
-                LacedPack pack = Runs.laid("n" + n + ";");
                 for (int card = 0; card < n; card++) {
+                    LacedPack pack = Runs.laid("n" + n + ";");
                     for (int place = 0; place < n; place++) {
                         bringsIt(check, pack, card, place);
                     }

@@ -39,26 +39,32 @@ final class Runs {
 
     static String order(LacedPack pack) {
         StringBuilder row = new StringBuilder();
-        for (int place = 0; place < pack.count(0); place++) {
+        int cards = pack.count(0);
+        for (int place = 0; place < cards; place++) {
             row.append(place == 0 ? "" : " ").append(pack.at(place));
         }
         return row.toString();
     }
 
-    /** All that can be asked of it, and all that it undoes, deals, goes back to and lays; it is used up then. */
+    /**
+     * All that can be asked of it, and all that it undoes, deals, goes back to and lays; it is used up then.
+     * Not more than 170 calls, for an object has but 512.
+     */
     static String trace(LacedPack pack) {
         StringBuilder all = new StringBuilder();
         for (int what = 0; what <= 5; what++) {
             all.append(pack.count(what)).append(' ');
         }
         all.append("fault ").append(pack.fault()).append(": ").append(order(pack)).append(", colours");
-        for (int card = 0; card < pack.count(0); card++) {
+        int cards = pack.count(0);
+        for (int card = 0; card < cards; card++) {
             all.append(' ').append(pack.colour(card));
         }
         all.append(", done ").append(pack.done(0)).append(' ').append(pack.done(1));
         all.append(", deals ").append(pack.again(5));
         for (int i = 0; i < 9 && pack.count(3) > 0; i++) {
-            all.append(", undone ").append(pack.undo()).append(": ").append(order(pack));
+            all.append(", undone ").append(pack.undo()).append(": ").append(pack.at(0));
+            all.append(' ').append(pack.at(cards - 1)).append(' ').append(pack.where(0));
         }
         pack.deal();
         all.append(", dealt ").append(order(pack));

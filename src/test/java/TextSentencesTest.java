@@ -219,11 +219,11 @@ public final class TextSentencesTest {
 
     private static void writing(Sentences all) {
         all.told("Promise 2: A letter (32 to 126, as in ASCII). BAD", check -> {
-            LacedPack pack = new LacedPack();
             for (int letter = -300; letter < 700; letter++) {
-                pack.wipe();
-                check.same("write(" + letter + ")", pack.write(letter), letter >= 32 && letter <= 126 ? 1 : BAD);
+                int due = letter >= 32 && letter <= 126 ? 1 : BAD;
+                check.same("write(" + letter + ")", new LacedPack().write(letter), due);
             }
+            LacedPack pack = new LacedPack();
             for (int letter : new int[] {Integer.MIN_VALUE, 65536 + 'n', -65536 + 'n', Integer.MAX_VALUE}) {
                 check.same("write(" + letter + ")", pack.write(letter), BAD);
             }
